@@ -100,6 +100,9 @@ public final class ForetoldTest {
         z.rider(0, 5, 0);
         z.rider(0, 4, 0);
         due.is("20 no stages", z.caught(0, 1), NONE);
+        due.is("20 as the first call", Due.on("100,900;o0/0,p20/0").caught(0, 1), 2);
+        due.is("20 as the first call", Due.on("100,900;p0/0,p20/0").caught(0, 1), NONE);
+        due.is("20 as the first call", Due.on("100,900;p20/0,o0/0").caught(1, 0), 2);
     }
 
     private static void best() {
@@ -127,6 +130,7 @@ public final class ForetoldTest {
         BorderForge w = Due.on("101,101,101,101,101,101,101,904;p0/3");
         due.is("21 the last of eight", w.best(0, 0), 128);
         due.is("21 the last of eight: when", w.best(0, 1), 124);
+        due.is("21 soonest ahead of fewest", Due.on("902,902,102;p0/6").best(0, 0), 3);
         BorderForge v = Due.on("504,504,504,504,504,504,504,504;p0/99");
         due.is("21 all eight", v.best(0, 0), 255);
         due.is("21 all eight: when", v.best(0, 1), 240);
@@ -164,6 +168,12 @@ public final class ForetoldTest {
         due.is("23 72 of tolls, 24 of horses", y.purse(0, 432), 96);
         y.price(4);
         due.is("23 more than there may be", y.purse(0, 432), NONE);
+        BorderForge z = Due.on("992,992,992,992,992,992,992,992;p0/0:0123456");
+        z.price(3);
+        z.ride(1);
+        due.is("23 63 of tolls, 18 of horses", z.purse(0, z.at(0, 2) + 6 * 54 + 90), 81);
+        z.price(6);
+        due.is("23 the most there may be", z.purse(0, z.at(0, 2) + 6 * 54 + 90), 99);
     }
 
     private static void loosened() {
@@ -203,6 +213,12 @@ public final class ForetoldTest {
         due.is("25 nobody can: none and none", z.duel(0, 1, 1), 0);
         z.ride(32);
         due.is("25 at the forge", z.duel(0, 1, 0), 9);
+        BorderForge v = Due.on("152;p0/5,p0/5");
+        due.is("25 none is sooner: one", v.duel(0, 1, 0), 1);
+        due.is("25 none is sooner: none and none", v.duel(0, 1, 1), 0);
+        BorderForge u = Due.on("301,821,501;p7/9,p5/8,r15/6:01");
+        due.is("25 no row rests", u.duel(0, 1, 0), 0);
+        due.is("25 no row rests: none", u.duel(0, 1, 1), NONE);
         BorderForge w = new BorderForge();
         w.rider(0, 0, 0);
         w.rider(0, 0, 0);

@@ -62,9 +62,14 @@ public final class SheetTest {
         Due.road(x, ROAD);
         x.ride(12);
         x.image();
-        x.undo();
-        x.undo();
-        x.ride(1);
+        int[] minutes = new int[8];
+        for (int k = 7; k >= 0; k--) {
+            x.undo();
+            minutes[k] = minutesOf(x);
+        }
+        for (int k = 0; k < 8; k++) {
+            x.wheel(k % 4);
+        }
         due.is("28 more than once", x.restore(), 1);
         due.is("28 what may be undone", x.count(7), 8);
         x.ride(1);
@@ -76,7 +81,16 @@ public final class SheetTest {
         due.is("28 twelve are ridden", ridden, 12);
         for (int k = 7; k >= 0; k--) {
             due.is("28 undone to " + k, x.undo(), k);
+            due.is("28 minutes then", minutesOf(x), minutes[k]);
         }
+    }
+
+    private static int minutesOf(BorderForge x) {
+        int all = 0;
+        for (int r = 0; r < 4; r++) {
+            all = all * 31 + x.at(r, 2);
+        }
+        return all;
     }
 
     private static void passed() {
@@ -164,6 +178,9 @@ public final class SheetTest {
         due.is("30 brother would", x.passed(0, 1, 3, 0, 1), 16);
         due.is("30 one", x.film(0, 1, 1, 3, 3), 1);
         due.is("30 it is the first", x.passed(0, 1, 3, 3, 1), 1);
+        put(x, 1, 3, 1, 60);
+        due.is("30 just one", x.film(0, 1, 1, 3, 0), 1);
+        due.is("30 what lies behind it stays", x.passed(0, 1, 3, 1, 1), 1);
         due.is("30 nothing is ridden", x.at(0, 1) + x.count(7), 0);
         due.all("30 wrong", BorderForge.BAD,
                 x.film(2, 1, 1, 3, 0), x.film(-1, 1, 1, 3, 0), x.film(0, 9, 1, 3, 0), x.film(0, 0, 1, 3, 0),

@@ -53,6 +53,12 @@ public final class TextTest {
             due.is("9 kind " + k, x.at(0, 0), k);
         }
         due.is("9 fewer riders", x.count(1), 1);
+        // what was on the tape once is no part of a number behind its end
+        Due.road(x, "999999999999999999999999999999");
+        due.is("9 a short one behind a long one", Due.road(x, "314;p1/2"), 1);
+        due.is("9 its coins", x.at(0, 3), 2);
+        due.is("9 of 90 letters", Due.road(x, " ".repeat(82) + "314;p1/9"), 1);
+        due.is("9 of 90 letters: coins", x.at(0, 3), 9);
         due.is("9 fewer stages", x.count(0), 1);
     }
 
@@ -75,6 +81,13 @@ public final class TextTest {
         fault("", 0);
         fault("014", 0);
         fault("a14", 0);
+        fault(":14", 0);
+        fault("/14", 0);
+        fault("3:4", 1);
+        fault("3/4", 1);
+        fault("31/", 2);
+        fault("314;p:", 5);
+        fault("314;p/1", 5);
         fault("3", 1);
         fault("3,", 1);
         fault("31", 2);
