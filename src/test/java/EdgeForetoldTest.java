@@ -400,7 +400,16 @@ public final class EdgeForetoldTest {
         due.is("25 each takes one, either", x.duel(0, 1, 0), 2);
         due.is("25 the first of them", x.duel(0, 1, 1), 102);
         // of two miles best horses spare 8, and then the toll is not paid
-        due.is("25 a wait of ten for eight spared", Due.on("251,100;p0/5,p9/0").duel(0, 1, 1), 0);
+        BorderForge wait = Due.on("251;p0/5,p9/0");
+        due.is("25 none is sooner than the only one", wait.duel(0, 1, 0), 2);
+        due.is("25 none is sooner than the only one: the first", wait.duel(0, 1, 1), 0);
+        // no wheel is off: who is a minute ahead has the horses
+        BorderForge ahead = Due.on("100,201;p0/3,p1/3");
+        due.is("25 a minute ahead: the other one has nothing to choose", ahead.duel(0, 1, 0), 3);
+        due.is("25 a minute ahead: the first", ahead.duel(0, 1, 1), 200);
+        BorderForge third = Due.on("100,201;p0/0,p50/3,p51/3:1");
+        due.is("25 a minute ahead of a third one", third.duel(0, 1, 0), 3);
+        due.is("25 a minute ahead of a third one: the first", third.duel(0, 1, 1), 2);
         edge.same("25 at the forge nobody is sooner", Edge::arrived, 36, y -> y.duel(0, 1, 0), y -> y.duel(2, 1, 0));
         edge.same("25 at the forge: none and none", Edge::arrived, 0, y -> y.duel(0, 1, 1));
         // others buy as they do: the third one has taken the horses
@@ -463,6 +472,17 @@ public final class EdgeForetoldTest {
         BorderForge x = new BorderForge();
         x.rider(0, 5, 0);
         fraction(x, 0, 10, 1, 1);
+        BorderForge eight = Due.on("100,100,100,100,100,100,100,100;p0/0,p999/0");
+        BorderForge race = Due.on("100,100,100,100,100,100,100,100;p0/0,p100/0");
+        eight.ride(8);
+        fraction(eight, 0, 10, 1, 1);
+        race.ride(7);
+        // one is left: there at 80, or 110, the other one at 180; then at 170, or 200
+        fraction(race, 0, 1, 1, 1);
+        race.wheel(0);
+        race.wheel(0);
+        race.wheel(0);
+        fraction(race, 0, 1, 9, 10);
         BorderForge y = Due.on("100,100,100;p0/0,p25/0");
         for (int left = 3; left >= 0; left--) {
             int[] above = {1, 7, 49, 343};
