@@ -115,6 +115,13 @@ public final class EdgeForetoldTest {
         }
         BorderForge y = Due.on("104;p3/9:0,p0/9:0,p1/9:0,p2/9:0");
         due.is("17 enough for all", y.ahead(0, 0), 9);
+        // 8 stages, 4 riders: the last to be there rides the last of 32
+        BorderForge all = Due.on("100,100,100,100,100,100,100,100;p0/0,p0/0,p0/0,p0/7");
+        for (int r = 0; r < 4; r++) {
+            due.is("17 of 32: " + r, all.ahead(r, 0), 80);
+            due.is("18 of 32: " + r, all.comes(r, 8), 80);
+            due.is("17 of 32: coins of " + r, all.ahead(r, 1), r == 3 ? 7 : 0);
+        }
     }
 
     private static void comesToEachStage() {

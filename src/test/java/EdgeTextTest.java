@@ -225,6 +225,8 @@ public final class EdgeTextTest {
         fault("100;p5/5::0", 9);
         fault("100;p5/5:0:0", 10);
         fault("100;p5/5:x", 9);
+        fault("100;p5/5:/", 9);
+        fault("100;p5/5:0/", 10);
         BorderForge x = new BorderForge();
         due.is("9 some buy, some do not", Due.road(x, "100,100;p5/5:1,p5/5,p5/5:0,p5/5"), 4);
         int[] sets = {2, 0, 1, 0};
