@@ -2,10 +2,14 @@ import java.lang.reflect.Constructor;
 import java.lang.reflect.Field;
 import java.lang.reflect.Method;
 import java.lang.reflect.Modifier;
+import java.nio.file.Files;
+import java.nio.file.Path;
 import java.util.Arrays;
 import java.util.HashSet;
 import java.util.Set;
 import java.util.TreeSet;
+import java.util.regex.Matcher;
+import java.util.regex.Pattern;
 
 /** The public face as the document writes it, and no more than that. */
 public final class FaceTest {
@@ -28,6 +32,7 @@ public final class FaceTest {
         due.is("no package", BorderForge.class.getPackageName().length(), 0);
         constants();
         calls();
+        document();
         constructor();
         nested();
         due.end();
@@ -70,6 +75,33 @@ public final class FaceTest {
                 due.is("of another name: " + method, names.contains(method.getName()) ? 1 : 0, 0);
             }
         }
+    }
+
+    /** Each line of the document's own face: the names, and what each call takes, in its order. */
+    private static void document() throws Exception {
+        String text = Files.readString(Path.of("../shared/DOC.md"));
+        Set<String> promised = new TreeSet<>();
+        Matcher call = Pattern.compile("(?m)^    public int (\\w+)\\(([^)]*)\\);$").matcher(text);
+        while (call.find()) {
+            promised.add(call.group(1) + "(" + call.group(2).replaceAll("\\b(int|long) \\w+", "$1").replace(" ", "") + ")");
+        }
+        Set<String> seen = new TreeSet<>();
+        for (Method method : BorderForge.class.getDeclaredMethods()) {
+            if (Modifier.isPublic(method.getModifiers())) {
+                String types = Arrays.toString(method.getParameterTypes()).replaceAll("[\\[\\] ]", "");
+                seen.add(method.getName() + "(" + types + ")");
+            }
+        }
+        due.is("calls in the document", promised.size(), 33);
+        due.is("as the document writes them " + seen, seen.equals(promised) ? 1 : 0, 1);
+        Matcher constant = Pattern.compile("\\b([A-Z]+) = (-\\d+)").matcher(text);
+        int constants = 0;
+        while (constant.find()) {
+            int value = BorderForge.class.getField(constant.group(1)).getInt(null);
+            due.is(constant.group(1), value, Integer.parseInt(constant.group(2)));
+            constants++;
+        }
+        due.is("constants in the document", constants, CONSTANTS.length);
     }
 
     private static String told(Method method) {
