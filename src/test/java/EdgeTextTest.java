@@ -103,6 +103,21 @@ public final class EdgeTextTest {
         fault("100,,100;p0/0", 4);
         fault("100,;p0/0", 4);
         fault("100 100;p0/0", 4);
+        aRiderWhereAStageIsDue();
+    }
+
+    /** What could stand later on can't stand there: no STAGES, half a STAGE, a STAGE less than the , tells. */
+    private static void aRiderWhereAStageIsDue() {
+        for (char kind : "psobr".toCharArray()) {
+            fault(kind + "0/0", 0);
+            fault("  " + kind + "0/0", 2);
+            fault("1" + kind + "0/0", 1);
+            fault("10" + kind + "0/0", 2);
+            fault("10 " + kind + "0/0", 3);
+            fault("100," + kind + "0/0", 4);
+            fault("100,2" + kind + "0/0", 5);
+            fault("100,20" + kind + "0/0", 6);
+        }
     }
 
     private static void milesAreADigitFromOne() {

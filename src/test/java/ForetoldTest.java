@@ -15,6 +15,10 @@ public final class ForetoldTest {
         loosened();
         duel();
         luck();
+        fewestOfLikeOnes();
+        oneFarBehindTheFirst();
+        nothingOfAnEarlierAsking();
+        nothingOfTheImage();
         nothingIsChanged();
         due.end();
     }
@@ -259,6 +263,85 @@ public final class ForetoldTest {
     private static void fraction(BorderForge x, int rider, int c, int above, int below) {
         due.is("26 above of " + rider + " by " + c, x.luck(rider, c, 0), above);
         due.is("26 below of " + rider + " by " + c, x.luck(rider, c, 1), below);
+    }
+
+    /** A set of one that comes behind a like set of two, as numbers go. */
+    private static void fewestOfLikeOnes() {
+        // 0 and 1: 24 less, a wait at 1. 2 alone: 24 less, a wait at 2. 0 or 1 alone: a wait at 2, less won
+        BorderForge x = Due.on("401,251,612;p0/8");
+        due.is("21 the fewest, not the least set", x.best(0, 0), 4);
+        due.is("21 when it is there then", x.best(0, 1), 106);
+        x.buys(0, 3);
+        due.is("21 by two, as soon", x.ahead(0, 0), 106);
+        x.buys(0, 4);
+        due.is("21 by one, as soon", x.ahead(0, 0), 106);
+        x.buys(0, 5);
+        due.is("21 its coins are gone at 2", x.ahead(0, 0), 114);
+        x.buys(0, 0);
+        due.is("21 by none, later", x.ahead(0, 0), 120);
+    }
+
+    private static final String APART = "500,300,200;p0/9,o90/9";
+
+    /** Rider 0 is at the forge by 100, when rider 1 has hardly begun: it comes at 165, 210, 240. */
+    private static void oneFarBehindTheFirst() {
+        due.is("18 to 1, as the first call", Due.on(APART).comes(1, 1), 165);
+        due.is("18 to 2, as the first call", Due.on(APART).comes(1, 2), 210);
+        due.is("18 to the forge, as the first call", Due.on(APART).comes(1, 3), 240);
+        due.is("20 as the first call", Due.on(APART).caught(1, 0), 1);
+        due.is("20 as the first call", Due.on(APART).caught(0, 1), NONE);
+        due.is("23 the second one's toll", Due.on("150;p0/9,p0/9").purse(1, 10), 5);
+        due.is("23 it may wait", Due.on("150;p0/9,p0/9").purse(1, 20), 0);
+        BorderForge x = Due.on("300,300;o0/0,p0/0");
+        // at the forge in 90 and 60: with one wheel off the second is not first
+        due.is("26 above", x.luck(1, 5, 0), 1);
+        due.is("26 below", x.luck(1, 5, 1), 4);
+        x.ride(1);
+        due.is("26 above, the first a stage on", x.luck(1, 5, 0), 1);
+        due.is("26 below, the first a stage on", x.luck(1, 5, 1), 4);
+        x.ride(1);
+        due.is("26 above, both a stage on", x.luck(1, 3, 0), 7);
+        due.is("26 below, both a stage on", x.luck(1, 3, 1), 10);
+    }
+
+    /** What was foretold when wheels were off is not taken for what is. */
+    private static void nothingOfAnEarlierAsking() {
+        nothingOfAnEarlierAsking(Due.on(APART), 0, 1);
+        nothingOfAnEarlierAsking(Due.on("500,300,200;o90/9,p0/9"), 1, 0);
+    }
+
+    private static void nothingOfAnEarlierAsking(BorderForge x, int fast, int slow) {
+        for (int k = 0; k < 5; k++) {
+            x.wheel(fast);
+        }
+        due.is("18 late, by wheels", x.comes(fast, 1), 200);
+        due.is("20 caught, by wheels", x.caught(fast, slow), 1);
+        for (int k = 0; k < 5; k++) {
+            x.undo();
+        }
+        x.ride(2);
+        due.is("20 a stage it has gone from counts for nothing", x.caught(fast, slow), NONE);
+        due.is("20 the other one, from 2 on", x.caught(slow, fast), 2);
+    }
+
+    /** An image kept further on tells nothing of how it is now. */
+    private static void nothingOfTheImage() {
+        BorderForge x = Due.on("401,401;p0/8:01,s0/8");
+        x.ride(3);
+        x.image();
+        for (int k = 0; k < 3; k++) {
+            x.undo();
+        }
+        due.is("17 from now", x.ahead(0, 0), 48);
+        due.is("18 from now", x.comes(0, 0), 0);
+        due.is("20 from now", x.caught(1, 0), 1);
+        due.is("21 from now", x.best(0, 0), 3);
+        due.is("21 from now, the minute", x.best(0, 1), 48);
+        due.is("24 from now", x.loosened(0, 0), 0);
+        due.is("25 from now", x.duel(0, 1, 0), 2);
+        // at 48, 78 or 108 against 90: not both wheels
+        due.is("26 from now, above", x.luck(0, 5, 0), 3);
+        due.is("26 from now, below", x.luck(0, 5, 1), 4);
     }
 
     private static void nothingIsChanged() {

@@ -12,6 +12,7 @@ public final class RideTest {
         drift();
         undo();
         undoneWhateverWasTold();
+        horsesOfEachStageAreBack();
         seed();
         due.end();
     }
@@ -231,6 +232,20 @@ public final class RideTest {
         x.ride(3);
         due.is("15 three", x.undo(), 2);
         due.is("15 just the last", x.at(0, 1) + x.at(1, 1), 2);
+    }
+
+    private static void horsesOfEachStageAreBack() {
+        BorderForge x = Due.on("101,102,103,104,101,102,103,104;p0/24:01234567");
+        due.is("11 all eight", x.ride(8), 8);
+        for (int s = 0; s < 8; s++) {
+            due.is("11 one taken at " + s, x.of(s, 2), s % 4);
+        }
+        for (int s = 7; s >= 0; s--) {
+            due.is("15 how many more", x.undo(), s);
+            due.is("15 the horses of " + s + " are back", x.of(s, 2), s % 4 + 1);
+            due.is("15 the horses of all", x.count(6), 20 - s);
+            due.is("15 coins", x.at(0, 3), 24 - 3 * s);
+        }
     }
 
     private static void seed() {

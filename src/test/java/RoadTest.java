@@ -8,6 +8,7 @@ public final class RoadTest {
         riders();
         of();
         at();
+        oneThereOneNot();
         buys();
         price();
         count();
@@ -133,6 +134,19 @@ public final class RoadTest {
             due.all("5 wrong", BorderForge.BAD,
                     x.at(-1, 0), x.at(1, 0), x.at(0, -1), x.at(0, 7), x.at(1, 5), x.at(Integer.MIN_VALUE, 9));
         }
+    }
+
+    private static void oneThereOneNot() {
+        BorderForge x = Due.on("500,300,200;p0/9,o90/9");
+        x.ride(3);
+        due.all("5 the first is at the forge", BorderForge.NONE, x.at(0, 5), x.at(0, 6));
+        due.is("5 the second is not, on best horses", x.at(1, 5), 45);
+        due.is("5 the second is not, else", x.at(1, 6), 75);
+        BorderForge y = Due.on("500,300,200;o90/9,p0/9");
+        y.ride(3);
+        due.all("5 the second is at the forge", BorderForge.NONE, y.at(1, 5), y.at(1, 6));
+        due.is("5 the first is not, on best horses", y.at(0, 5), 45);
+        due.is("5 the first is not, else", y.at(0, 6), 75);
     }
 
     private static void buys() {

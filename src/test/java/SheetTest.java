@@ -9,6 +9,7 @@ public final class SheetTest {
         passed();
         passedOfLanes();
         film();
+        filmMidway();
         sheet();
         drop();
         item();
@@ -200,6 +201,26 @@ public final class SheetTest {
         y.sheet(3, 1, 8);
         due.is("30 all eight", y.film(0, 8, 3, 1, 0), 8);
         due.is("30 all eight as told", y.passed(0, 3, 1, 0, 8), 16);
+    }
+
+    /** Of those next, wherever one is and whatever image there is. */
+    private static void filmMidway() {
+        BorderForge x = Due.on("500,300,200;p0/9,o90/9");
+        x.sheet(0, 2, 3);
+        x.ride(1);
+        due.is("30 of two", x.film(0, 2, 0, 2, 1), 2);
+        due.is("29 as filmed", x.passed(0, 0, 2, 1, 2), 1);
+        x.item(0, 2, 0, 80);
+        x.copy(0, 2, 0, 1, 1);
+        // 80 by an item put there, 100 by the film
+        due.is("29 as reckoned", x.passed(0, 0, 2, 0, 2), 1);
+        x.ride(1);
+        x.image();
+        x.undo();
+        due.is("30 from now, not as in the image", x.film(0, 1, 0, 2, 0), 1);
+        due.is("29 80, then 100", x.passed(0, 0, 2, 0, 2), 1);
+        due.is("30 of one far behind", x.film(1, 3, 0, 2, 0), 3);
+        due.is("29 of one far behind: old, or a bride without best horses", x.passed(1, 0, 2, 0, 3), 12);
     }
 
     private static void sheet() {
